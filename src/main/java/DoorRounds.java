@@ -1205,6 +1205,7 @@ public final class DoorRounds {
             return true;
         }
 
+        /** Each SHOP goes in behind those that it is not ahead of, so of alike ones the least number is first. */
         void rank() {
             for (int s = 0; s < size && s < MOST_SHOPS; s++) {
                 int place = s;
@@ -1222,7 +1223,7 @@ public final class DoorRounds {
             if (isShy != (other.kind == SHY)) {
                 return !isShy;
             }
-            return one.age > other.age || one.age == other.age && s < q;
+            return one.age > other.age;
         }
     }
 

@@ -33,6 +33,8 @@ public final class ErrandsTest {
         check.due("at home", 0, x.round(0, 1));
         check.due("upwards", 10, x.round(0, 0b0111));
         check.due("downwards", 6, x.round(0, 0b1001));
+        check.due("one up", 2, x.round(1, 0b10));
+        check.due("one down", 2, x.round(18, 0b1000));
         check.due("both: 5 up, 3 down", 16, x.round(0, 0b1111));
         check.due("the far side", 20, x.round(0, 0b10000));
         check.due("all about", 20, x.round(0, 0b1111111));
@@ -83,6 +85,14 @@ public final class ErrandsTest {
         x.go(2);
         check.due("from now on", 8, x.errands(0, 3, 2, 1));
         check.rowIs("weeks from now on", x, 1, 2, 2);
+        DoorRounds seven = Check.with("d30s1:+1:1s2:+1:1s3:+1:1s4:+1:1s5:+1:1s6:+1:1s7:+1:1");
+        check.due("seven, each at its own time", 0, seven.errands(0, 127, 30, 4));
+        check.rowIs("seven weeks", seven, 4, 29, 28, 27, 26, 25, 24, 23);
+        check.due("four of them", 0, seven.errands(0, 0b1010101, 30, 4));
+        check.rowIs("four weeks", seven, 4, 29, 27, 25, 23);
+        // In week 28 shop 1 is at home; shop 0 is next door now and in week 28.
+        check.due("the first is next door now", 2, seven.errands(0, 0b11, 28, 4));
+        check.rowIs("now and in week 28", seven, 4, 0, 28);
         x.row(0, 40);
         check.due("a row anew", 0, x.errands(4, 2, 30, 0));
         check.rowIs("one place", x, 0, 0);
@@ -98,6 +108,8 @@ public final class ErrandsTest {
         check.asked("over the seam", x, 0, 2, x.agree(19, 1, 60));
         check.asked("the least shop of alike ones", x, 0, 10, x.agree(0, 10, 0));
         check.asked("week 0 alone", x, 0, 6, x.agree(3, 3, 0));
+        DoorRounds one = Check.with("d10 s3:+0:1");
+        check.asked("none is at door 0", one, 0, 6, one.agree(0, 0, 0));
         DoorRounds none = Check.with("d20");
         check.finding("agree with no shops", none, 4, none.agree(0, 0, 0));
         check.due("BAD ahead of NOUGHT", BAD, none.agree(0, 20, 0));

@@ -46,6 +46,8 @@ public final class RentsMendingTest {
         Check.fill(x, 2, 0, 0, 0, 7, 0, 0, 0, 0, 0, 0);
         fraction(x, 0, 1, 1, x.dearest(2, 2));
         check.finding("all rents are 0", x, 4, x.dearest(2, 1));
+        Check.fill(x, 2, 0, 0, 0, 0, 0, 0, 0, 0, 1, 0);
+        fraction(x, 2, 1, 1, x.dearest(2, 1));
         check.due("upper() stays", 1, x.upper());
         DoorRounds none = Check.with("d10");
         Check.fill(none, 0, 1, 1, 1, 1, 1, 1, 1, 1, 1, 1);

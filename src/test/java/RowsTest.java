@@ -121,6 +121,8 @@ public final class RowsTest {
         check.asked("mean below 0 is cut, too", x, 1, -2, x.mean(0));
         Check.fill(x, 0, Integer.MAX_VALUE, Integer.MAX_VALUE, Integer.MAX_VALUE);
         check.asked("mean of great ones", x, 1, Integer.MAX_VALUE, x.mean(0));
+        Check.fill(x, 0, -7);
+        check.asked("mean of one", x, 1, -7, x.mean(0));
         Check.fill(x, 0, Integer.MIN_VALUE, Integer.MIN_VALUE);
         check.asked("mean of least ones", x, 1, Integer.MIN_VALUE, x.mean(0));
         check.due("mean(6)", BAD, x.mean(6));

@@ -149,6 +149,7 @@ public final class SquaresTest {
         check.due("notes went", 0, x.count(5));
         check.finding("kept weeks went", x, 1, x.on(1));
         check.due("shop 0 is at its door again", 0, x.who(0));
+        check.due("shop 1, too", 1, x.who(5));
         check.due("square without shops", 0, x.square(2));
         check.due("its doors", 12, x.count(0));
     }
@@ -180,6 +181,8 @@ public final class SquaresTest {
         check.due("two beside a fixed one, over the seam", 2, x.mark(0, 1));
         // The shy one wants 11, as do shop 4 (8 + 3), shop 2 (1 - 2) and shop 5 (2 - 3).
         check.due("three others want it", 3, x.mark(3, 2));
+        check.due("none beside, though door 0 is", 0, Check.with("d10 f1:+0:1 s5:+1:1").mark(0, 1));
+        check.due("none wants it, though it is door 0", 0, Check.with("d10 y9:+1:1 s5:+1:1").mark(0, 2));
         check.finding("a fixed one is not shy", x, 3, x.mark(0, 2));
         check.finding("a shy one is not fixed", x, 3, x.mark(3, 1));
         check.finding("a shop is no sleeper", x, 3, x.mark(1, 3));

@@ -49,6 +49,8 @@ public final class ToldTest {
         check.due("shop 1, at a shut door", 1, x.who(0));
         check.due("notes stay", 1, x.count(5));
         check.due("kept weeks stay", 0, x.on(0));
+        Check.fill(x, 2, 0, 0, 0, 7);
+        check.due("week 0, none shut", 0, x.gone(2));
         x.go(7);
         x.image(3);
         long before = x.digest();

@@ -7,6 +7,7 @@ public final class WeeksTest {
     public static void main(String[] args) {
         goings();
         whoTakesADoor();
+        squareBehindSquare();
         shutDoors();
         go();
         doorsAndWho();
@@ -79,8 +80,25 @@ public final class WeeksTest {
         // On, door by door, over the seam and over several taken ones.
         nextDoors("d10 s7:+1:9 s8:+1:8 s9:+1:7 s6:+2:1", 8, 9, 0, 1);
         nextDoors("d10 s2:-1:9 s1:-1:8 s0:-1:7 s3:-2:1", 1, 0, 9, 8);
+        // All want 0: by ages, of alike ones the least number, then the shy ones.
+        nextDoors("d20 s1:-1:5 y2:-2:99 s3:-3:7 s19:+1:5 y18:+2:98 s17:+3:6 s4:-4:7", 18, 17, 0, 2, 3, 1, 19);
         // What is left this week is free: they go one behind the other round about.
         nextDoors("d10 s0:+1:1 s1:+1:2 s2:+1:3", 1, 2, 3);
+    }
+
+    /** Squares one behind the other in one object: nothing of an earlier one is left. */
+    private static void squareBehindSquare() {
+        DoorRounds x = new DoorRounds();
+        Check.write(x, 0, "d10 s4:+1:8 s6:-1:9 f0:+0:1 f9:+0:2");
+        Check.write(x, 1, "d10 y4:+1:9 s6:-1:8 f0:+0:7 f9:+0:6");
+        Check.write(x, 2, "d10 s4:+1:9 s6:-1:8");
+        int[][] due = {{6, 5, 0, 9}, {6, 5, 0, 9}, {5, 4}};
+        for (int i = 0; i < 9; i++) {
+            x.square(i % 3);
+            x.go(1);
+            x.doors(0);
+            check.rowIs("square " + i, x, 0, due[i % 3]);
+        }
     }
 
     private static void shutDoors() {

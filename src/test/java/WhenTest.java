@@ -76,6 +76,14 @@ public final class WhenTest {
         // The sleeper loses 9 a week: 3, 6, 9, 0.
         meets(x, 4, 0, 3, 4, 3);
         meets(x, 4, 1, NONE, 0, 3);
+        x = Check.with("d12 s3:+1:1 s8:-1:1");
+        meets(x, 1, 5, 0, 6, 2);
+        meets(x, 1, 11, 3, 6, 2);
+        x = Check.with("d12 s4:+1:1 s7:+5:1");
+        // 3 up and 4 gained a week: 3, 7, 11.
+        meets(x, 1, 3, 0, 3, 4);
+        meets(x, 1, 11, 2, 3, 4);
+        meets(x, 1, 1, NONE, 0, 4);
         x = Check.with("d11 s0:+9:1 s1:-9:1");
         // 18 lost a week is 4 gained: 1, 5, 9, 2, 6, 10, 3, 7, 0.
         meets(x, 1, 0, 8, 11, 1);
