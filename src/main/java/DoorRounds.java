@@ -10,6 +10,7 @@ public final class DoorRounds {
     private static final int NOTHING = 1, BEYOND = 2, UNLIKE = 3, NOUGHT = 4, SIZE = 5;
     private static final int FIXED = 1, SHY = 2, SLEEPER = 3, TURNER = 4, DREAMER = 5;
     private static final int BLANK = 32, PLUS = 43, MINUS = 45, COLON = 58, LETTER_D = 100;
+    private static final int FIGURE_0 = 48, FIGURE_9 = 57;
     /** The letters of the KINDS, each at its KIND's number. */
     private static final int[] LETTERS = {115, 102, 121, 110, 111, 112};
 
@@ -1256,15 +1257,16 @@ public final class DoorRounds {
             return true;
         }
 
-        boolean isFigure() {
-            return !isAtEnd() && text.get(place) >= 48 && text.get(place) <= 57;
+        private static boolean isFigure(int sign) {
+            return sign >= FIGURE_0 && sign <= FIGURE_9;
         }
 
         boolean readNumber(int fewestFigures, int mostFigures, int least, int most) {
             int figures = 0;
             number = 0;
-            for (; figures < mostFigures && isFigure(); figures++) {
-                number = 10 * number + text.get(place) - 48;
+            // Behind the end get() answers 0, which is no figure.
+            for (; figures < mostFigures && isFigure(text.get(place)); figures++) {
+                number = 10 * number + text.get(place) - FIGURE_0;
                 place++;
             }
             return figures >= fewestFigures && number >= least && number <= most;
