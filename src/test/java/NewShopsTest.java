@@ -72,5 +72,8 @@ public final class NewShopsTest {
         x = Check.with("d10 s0:+1:1 s1:+1:1 s2:+1:1");
         // A step of 0 meets all three.
         check.asked("the first step", x, 1, 3, x.busy());
+        // 9 is 1, 13, 5 and 2 apart from their steps: doors any, any, by fives, by twos.
+        x = Check.with("d30 s11:+8:1 s6:-4:1 s15:+4:1 s8:+7:1");
+        check.asked("the last step", x, 18, 4, x.busy());
     }
 }

@@ -219,7 +219,13 @@ public final class WeeksTest {
         check.due("from now on", 9, x.again());
         // Each time round the old one pushes the fixed one up by one: 24 weeks each, 25 times.
         check.due("the last week looked at", 600, Check.with("d25 f5:+0:1 s10:-1:9").again());
-        check.due("behind the last week", NONE, Check.with("d26 f5:+0:1 s10:-1:9").again());
+        check.due("far behind the last week", NONE, Check.with("d26 f5:+0:1 s10:-1:9").again());
+        x = Check.with("d11 p4:+6:8:8 s7:-9:8");
+        check.due("behind the last week", NONE, x.again());
+        x.go(400);
+        x.go(201);
+        x.doors(0);
+        check.rowIs("in week 601", x, 0, 4, 7);
         x = Check.with("d10 f5:+0:1");
         x.shut(5);
         check.due("never again", NONE, x.again());
