@@ -423,7 +423,8 @@ public final class DoorRounds {
             return BAD;
         }
         int week = 0;
-        int least = Integer.MAX_VALUE;
+        // No ROUND is longer than all DOORS.
+        int least = plan.doors + 1;
         ahead.become(now);
         for (int w = 0; w <= n; w++) {
             int length = ahead.roundOf(plan, d, set);
@@ -467,7 +468,8 @@ public final class DoorRounds {
             return found(NOUGHT);
         }
         int choice = 0;
-        int least = Integer.MAX_VALUE;
+        // Nobody walks farther than half about.
+        int least = plan.doors + 1;
         ahead.become(now);
         for (int w = 0; w <= n; w++) {
             for (int s = 0; s < plan.size; s++) {

@@ -87,7 +87,7 @@ public final class RulesTest {
         String[] banned = {
             "\\b(throw|throws|try|catch|synchronized|assert|volatile|transient|native|package)\\b", "->", "::",
             "\\bstatic\\s*\\{", "\\w*Exact\\b", "\\b(double|float|Object|Thread|Random|Class|Iterator)\\b", "\\.equals\\(",
-            "\\bhashCode\\b", "\\btoString\\b", "\\bSystem\\.(?!arraycopy\\b)", "\\bfor\\s*\\(\\s*;\\s*;", "while\\s*\\(true",
+            "\\bhashCode\\b", "\\btoString\\b", "\\bSystem\\.(?!arraycopy\\b)", "\\bfor\\s*\\(\\s*;\\s*;", "while\\s*\\(true", "M(AX|IN)_VALUE",
             "\\bjava\\.(?!util\\.Arrays;)", "\"",
         };
         for (String ban : banned) {
