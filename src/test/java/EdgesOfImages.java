@@ -223,6 +223,11 @@ final class EdgesOfImages {
         // 9 is SHUT: 8, wants 9 (SHUT) and goes on up over 0 to 1, wants 0 and goes on down over 9 to 8, and so on.
         e.looks("digest()", digestOf(10, 1, 4, 1, 2, 2, 2, 2, 5, 1, -1, 7, 2, 9, 1 + (1 << 9), 99, 0, 3, 0, 0, 4, 3, -1, 0,
                 0, -1, -1, -1, -1, 3, Integer.MIN_VALUE, 8, Integer.MAX_VALUE, 0, 2, -128, 32, -1, -1));
+        e.from("text 0: d10s9:+0:1s8:+0:2", "square(0)", "note(1, 1, 2)", "keep(1)", "text(0, 0)");
+        e.looks("digest()", digestOf(10, 2, 0, 0, 0, 1, 0, 1, 0, 9, 0, 1, 0, 9, 0, 8, 0, 2, 0, 8, 0, 1, 1, 2, -1, 0, -1,
+                -1, -1, -1, -1, -1, -1, 0, -1, -1, -1));
+        e.from("text 0: d10p9:-1:7:2", "square(0)", "shut(0)", "shut(9)", "note(99, 0, 3)", "note(0, 0, 4)", "keep(2)", "go(3)",
+                "keep(0)", "go(1)", "row 5: min 8 max", "row(0, 0)", "text(1, 2)", "put(1, 0, 128)", "text(0, 0)");
         e.inTurn("tear(5)", 1, "digest()", digestOf(10, 1, 4, 1, 2, 2, 1, 2, 5, 1, -1, 7, 2, 9, 1 + (1 << 9), 99, 0, 3, 0, 0, 4,
                 3, -1, 0, 0, -1, -1, -1, -1, -1, 0, 2, -128, 32, -1, -1));
     }

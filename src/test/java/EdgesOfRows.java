@@ -224,6 +224,7 @@ final class EdgesOfRows {
         e.says(10, "A FAULT of a TEXT;");
         e.fromRichAnd("text 0: d12s3", "text 2:  d30 ");
         e.looks("fault(0)", 5);
+        e.inTurn("fault(0)", 5, "fault(0)", 5, "fault(2)", NONE, "fault(0)", 5, "fault(1)", 5, "square(0)", STATE, "fault(0)", 5);
         e.says(10, "NONE: there is none.");
         e.looks("fault(2)", NONE);
         e.looks("fault(3)", NONE);
@@ -240,6 +241,7 @@ final class EdgesOfRows {
                 "finding()", 1, "on(2)", FINDING, "count(6)", 3, "count(7)", 4, "asked()", 12, "who(9)", NONE, "who(10)", BAD);
         e.inTurn("square(2)", 2, "count(0)", 30, "count(1)", 2, "count(2)", 0, "who(29)", 0, "who(28)", 1, "go(1)", 1, "who(0)", 0);
         e.inTurn("square(3)", 7, "count(2)", 0, "who(0)", 0, "who(18)", 6, "open(13)", STATE);
+        squareBehindSquare(e);
         e.says(11, "BAD;");
         e.refuses("square(4)", BAD);
         e.refuses("square(-1)", BAD);
@@ -252,6 +254,22 @@ final class EdgesOfRows {
         e.from("text 1: d12s3");
         e.finds("square(0)", Edges.NOTHING);
         e.refuses("square(1)", STATE);
+    }
+
+    /** Nothing of an earlier one is left: no SHOP, k, order, DOOR told ahead, kept WEEK, SHUT DOOR. */
+    private static void squareBehindSquare(Edges e) {
+        e.from("text 0: d10n5:+1:9:2f4:+0:8f3:+0:7", "text 1: d10f9:+0:1s5:+1:1s3:-1:2", "text 2: d20s5:+1:1", "square(0)",
+                "keep(0)", "keep(1)", "keep(2)", "shut(9)", "note(0, 2, 9)");
+        e.inTurn("square(1)", 3, "on(0)", FINDING, "on(1)", FINDING, "on(2)", FINDING, "count(4)", 0, "count(5)", 0);
+        e.inTurn("square(2)", 1, "square(2)", 1, "about(0, 4)", 1, "asked()", 0, "go(2)", 2, "who(7)", 0, "count(3)", 0);
+        for (String between : new String[] {"square(0)", "square(2)", "fault(0)", "fault(2)"}) {
+            // The least age goes last, whoever went last ahead of it.
+            e.from("text 0: d10n5:+1:9:2f4:+0:8f3:+0:7", "text 1: d10f9:+0:1s5:-1:2s3:+1:3", "text 2: d20s5:+1:1", "square(0)",
+                    "square(1)", between, between);
+            e.inTurn("square(1)", 3, "about(0, 4)", 1, "asked()", 0, "wants(0)", 9, "asked()", 9, "wants(1)", 4, "asked()", 3,
+                    "wants(2)", 4, "asked()", 4, "count(3)", 0, "count(0)", 10);
+            e.inTurn("square(1)", 3, "square(1)", 3, "square(0)", 3, "go(1)", 1, "who(6)", 0, "who(4)", 1, "who(3)", 2);
+        }
     }
 
     private static void about(Edges e) {
@@ -286,11 +304,20 @@ final class EdgesOfRows {
         e.looks("mark(0, 1)", 2);
         e.looks("mark(1, 1)", 1);
         e.looks("mark(4, 1)", 0);
+        // None there: no DOOR 0 of a SHOP that is not.
+        for (String alone : new String[] {"f1:+0:1", "f9:+0:1", "f0:+0:1"}) {
+            e.from("square: d10 " + alone);
+            e.looks("mark(0, 1)", 0);
+        }
         e.says(13, "a SHY one how many others WANT what it WANTS,");
         e.from("square: d10 y0:+1:1 s2:-1:1 f1:+0:1 y3:-2:1 s9:+1:1 y8:+0:1");
         e.looks("mark(0, 2)", 3);
         e.looks("mark(3, 2)", 3);
         e.looks("mark(5, 2)", 0);
+        for (String alone : new String[] {"y9:+1:1", "y0:-1:1", "y0:+0:1"}) {
+            e.from("square: d10 " + alone);
+            e.looks("mark(0, 2)", 0);
+        }
         e.says(13, "a SLEEPER (DREAMER, too) how many WEEKS from now on till one in which w modulo k is k less 1 (0: now),");
         marksByWeeks(e, "n0:+1:1:2", 3, 1, 0, 1, 0);
         marksByWeeks(e, "n0:+1:1:9", 3, 8, 7, 6, 5, 4, 3, 2, 1, 0, 8);

@@ -89,6 +89,9 @@ final class EdgesOfShops {
         e.looksAndTells("busy()", 1, 1);
         e.from("square: d29 s0:+1:1 s1:+1:1 s2:+1:1 s3:+1:1 s4:+1:1 s5:+1:1 s6:-9:1");
         e.looksAndTells("busy()", 1, 7);
+        // 9 is 1, 13, 5 and 2 apart from their STEPS: DOORS any, any, by fives, by twos; no STEP ahead of it has all.
+        e.from("square: d30 s11:+8:1 s6:-4:1 s15:+4:1 s8:+7:1");
+        e.looksAndTells("busy()", 18, 4);
         e.says(36, "STATE.");
         e.from("text 0: d10");
         e.refuses("busy()", STATE);
