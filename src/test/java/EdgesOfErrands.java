@@ -115,6 +115,10 @@ final class EdgesOfErrands {
         e.from(SEVEN);
         e.inTurn("errands(0, 127, 30, 1)", 12, "at(1, 0)", 1, "asked()", 0, "at(1, 6)", 1, "asked()", 0, "at(1, 7)", Edges.FINDING);
         e.inTurn("errands(0, 64, 30, 1)", 12, "at(1, 0)", 1, "asked()", 0, "at(1, 1)", Edges.FINDING);
+        // Each of seven comes home in a WEEK of its own.
+        e.from("square: d30s1:+1:1s2:+1:1s3:+1:1s4:+1:1s5:+1:1s6:+1:1s7:+1:1");
+        e.inTurn("errands(0, 127, 30, 1)", 0, "at(1, 0)", 1, "asked()", 29, "at(1, 1)", 1, "asked()", 28, "at(1, 2)", 1, "asked()", 27,
+                "at(1, 3)", 1, "asked()", 26, "at(1, 4)", 1, "asked()", 25, "at(1, 5)", 1, "asked()", 24, "at(1, 6)", 1, "asked()", 23);
         e.says(32, "BAD.");
         e.from(Edges.RICH);
         e.refuses("errands(0, 1, 31, 1)", BAD);
